@@ -1,0 +1,148 @@
+import java.io.IOException;
+import java.lang.reflect.Constructor;
+import java.lang.reflect.Field;
+import java.lang.reflect.Member;
+import java.lang.reflect.Method;
+import java.lang.reflect.Modifier;
+import java.nio.file.Files;
+import java.nio.file.Path;
+import java.util.Set;
+import java.util.TreeSet;
+import java.util.regex.Matcher;
+import java.util.regex.Pattern;
+
+/** The face of the document, and those rules of LANGUAGE.md that can be looked at without reading the program. */
+public final class LanguageTest {
+    public static void main(String[] args) throws IOException {
+        face();
+        words();
+        room();
+        Due.end();
+    }
+
+    private static void say(String what, boolean is) {
+        Due.is(what, is ? 1 : 0, 1);
+    }
+
+    private static void face() throws IOException {
+        String doc = Files.readString(Path.of("../shared/DOC.md"));
+        Set<String> due = new TreeSet<>();
+        Matcher m = Pattern.compile("\n    public (int|long) (\\w+)\\(([^)]*)\\);").matcher(doc);
+        while (m.find()) {
+            due.add(m.group(1) + " " + m.group(2) + "(" + m.group(3).replaceAll(" \\w+(,|$)", "$1").replace(" ", "") + ")");
+        }
+        Set<String> names = new TreeSet<>();
+        Set<String> got = new TreeSet<>();
+        for (Method method : SleepWard.class.getDeclaredMethods()) {
+            if (!Modifier.isPrivate(method.getModifiers())) {
+                names.add(method.getName());
+                StringBuilder types = new StringBuilder();
+                for (Class<?> type : method.getParameterTypes()) {
+                    types.append(types.length() > 0 ? "," : "").append(type);
+                }
+                got.add(method.getReturnType() + " " + method.getName() + "(" + types + ")");
+            }
+        }
+        Due.is("methods of the document", due.size(), 44);
+        say("the face is " + due + ", not " + got, due.equals(got));
+        say("final", Modifier.isFinal(SleepWard.class.getModifiers()));
+        for (Constructor<?> c : SleepWard.class.getDeclaredConstructors()) {
+            say("one public constructor", Modifier.isPublic(c.getModifiers()) && c.getParameterCount() == 0);
+        }
+        for (Field field : SleepWard.class.getDeclaredFields()) {
+            say(field + " is private", Modifier.isPrivate(field.getModifiers()));
+        }
+        members(SleepWard.class, names);
+        for (Class<?> inside : SleepWard.class.getDeclaredClasses()) {
+            say(inside + " is static", Modifier.isStatic(inside.getModifiers()) && !Modifier.isPublic(inside.getModifiers()));
+            members(inside, names);
+        }
+    }
+
+    private static void members(Class<?> of, Set<String> names) {
+        for (Method method : of.getDeclaredMethods()) {
+            boolean isFace = of == SleepWard.class && Modifier.isPublic(method.getModifiers());
+            say(method + " has a name of its own", isFace || !names.contains(method.getName()));
+            say(method + " has at most seven parameters", method.getParameterCount() <= 7);
+        }
+        int fields = 0;
+        for (Field field : of.getDeclaredFields()) {
+            fields += Modifier.isStatic(field.getModifiers()) ? 0 : 1;
+            say(field + " is final if static", isFinalIfStatic(field));
+        }
+        say(of + " has at most twenty fields", fields <= 20);
+    }
+
+    private static boolean isFinalIfStatic(Member member) {
+        return !Modifier.isStatic(member.getModifiers()) || Modifier.isFinal(member.getModifiers());
+    }
+
+    private static void words() throws IOException {
+        String source = Files.readString(Path.of("src/main/java/SleepWard.java"));
+        for (int i = 0; i < source.length(); i++) {
+            if (source.charAt(i) > 126) {
+                say("a sign above 126 at " + i, false);
+            }
+        }
+        String code = source.replaceAll("(?s)/\\*.*?\\*/", "").replaceAll("//[^\n]*", "").replaceAll("\"[^\"\n]*\"", "\"\"");
+        String[] never = {"\\bthrow\\b", "\\bthrows\\b", "\\btry\\b", "\\bcatch\\b", "\\bsynchronized\\b", "\\bassert\\b",
+            "->", "::", "\\bpackage\\b", "Exact\\b", "\\bObject\\b", "\\bMap\\b", "\\bequals\\b", "\\bhashCode\\b",
+            "\\btoString\\b", "System\\.(?!arraycopy)", "Arrays\\.(?!fill|copyOf)", "import (?!java\\.util\\.(Arrays|ArrayList|List);)",
+            "\\bstatic \\{", "\\bvar\\b", "\\bprotected\\b"};
+        for (String word : never) {
+            say("no " + word, !Pattern.compile(word).matcher(code).find());
+        }
+        Matcher m = Pattern.compile("(?m)^( +)[\\w\\[\\] ]+\\([^;{]*\\) \\{\n(?s:.*?)^\\1\\}\n").matcher(code);
+        int methods = 0;
+        while (m.find()) {
+            methods++;
+            say("a method of more than sixty lines: " + m.group().split("\n")[0], m.group().split("\n").length <= 60);
+        }
+        say("methods were seen", methods > 44);
+    }
+
+    /** The dearest calls make no objects: what a run makes is what its objects are made with. */
+    private static void room() {
+        com.sun.management.ThreadMXBean threads =
+            (com.sun.management.ThreadMXBean) java.lang.management.ManagementFactory.getThreadMXBean();
+        long id = Thread.currentThread().getId();
+        dearCalls(new SleepWard());
+        long before = threads.getThreadAllocatedBytes(id);
+        SleepWard x = new SleepWard();
+        long made = threads.getThreadAllocatedBytes(id);
+        dearCalls(x);
+        long after = threads.getThreadAllocatedBytes(id);
+        say("a new object takes " + (made - before) + " bytes", made - before < 16000);
+        say("its calls take " + (after - made) + " bytes", after - made < 2000);
+    }
+
+    private static void dearCalls(SleepWard x) {
+        for (int i = 0; i < 8; i++) {
+            x.walker(i % 6, 3 * i, i % 4);
+        }
+        for (int square : new int[] {6, 8, 16}) {
+            x.mark(square, 1, true);
+        }
+        x.sheet(0, 64, 40);
+        for (int i = 0; i < 20; i++) {
+            x.on(0, 500);
+            x.river(0);
+            x.meet(0, 1);
+            x.home(1);
+            x.safe(500);
+            x.barred(120, 0);
+            x.lamp(120);
+            x.watch(120);
+            x.loop(0);
+            x.odds(4, 0, 15);
+            x.likeliest(4, 15);
+            x.track(0, 1);
+            x.whose(0);
+            x.image();
+            x.undo();
+            x.feed('m', 1);
+            x.feed('o' << 24 | 'o' << 16 | 'n' << 8 | '1', 4);
+            x.ward();
+        }
+    }
+}
