@@ -831,8 +831,9 @@ public final class SleepWard {
         }
         long share = PARTS / Integer.bitCount(ways) * parts[square];
         for (int way = 0; way < WAYS; way++) {
-            if ((ways >> way & 1) != 0) {
-                nextParts[Ward.squareBeside(square, way)] += share;
+            int there = (ways >> way & 1) != 0 ? Ward.squareBeside(square, way) : -1;
+            if (there >= 0) {
+                nextParts[there] += share;
             }
         }
     }
@@ -1063,12 +1064,10 @@ public final class SleepWard {
             int best = -1;
             int least = heights[one.place];
             for (int way = 0; way < WAYS; way++) {
-                if ((ways >> way & 1) != 0) {
-                    int height = heights[squareBeside(one.place, way)];
-                    if (height < least) {
-                        least = height;
-                        best = way;
-                    }
+                int there = (ways >> way & 1) != 0 ? squareBeside(one.place, way) : -1;
+                if (there >= 0 && heights[there] < least) {
+                    least = heights[there];
+                    best = way;
                 }
             }
             return best >= 0 ? best : plainStep(one.way, ways);
@@ -1077,7 +1076,8 @@ public final class SleepWard {
         int lampStep(Walker one, int ways) {
             int lit = 0;
             for (int way = 0; way < WAYS; way++) {
-                if ((ways >> way & 1) != 0 && hasLamp(squareBeside(one.place, way))) {
+                int there = (ways >> way & 1) != 0 ? squareBeside(one.place, way) : -1;
+                if (there >= 0 && hasLamp(there)) {
                     lit |= 1 << way;
                 }
             }
@@ -1117,10 +1117,11 @@ public final class SleepWard {
             for (int i = 0; i < walkerCount; i++) {
                 Walker one = walkers[i];
                 int way = one.awake || isRiver(one.place) ? -1 : stepOf(one);
-                if (way >= 0) {
+                int there = way >= 0 ? squareBeside(one.place, way) : -1;
+                if (there >= 0) {
                     one.way = way;
-                    one.place = squareBeside(one.place, way);
-                    came += isRiver(one.place) ? 1 : 0;
+                    one.place = there;
+                    came += isRiver(there) ? 1 : 0;
                 }
             }
             for (int i = 0; i < walkerCount; i++) {

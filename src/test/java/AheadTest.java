@@ -13,6 +13,7 @@ public final class AheadTest {
         promise29();
         promise30();
         promise31();
+        theLastMinute();
         nothingChanges();
         Due.end();
     }
@@ -130,6 +131,7 @@ public final class AheadTest {
 
     private static void promise25() {
         SleepWard x = Due.told("walker at 6 way 1;walker at 20 way 1;river 9;river 20");
+        Due.is("safe", x.safe(1), 1);
         Due.is("safe", x.safe(2), 1);
         Due.is("not safe", x.safe(3), 0);
         Due.is("not safe", x.safe(500), 0);
@@ -170,6 +172,26 @@ public final class AheadTest {
         Due.is("what", x.barred(1, 2), Due.BEYOND);
         Due.is("what", x.barred(1, -1), Due.BEYOND);
 
+        // the first door of all, and all doors that there are
+        SleepWard y = Due.told("walker at 1 way 3;river 0");
+        Due.is("the first", y.barred(1, 1), 1);
+        y.door(0, 5, false);
+        Due.is("all", y.barred(1, 0), 1);
+        Due.is("all", y.barred(120, 1), 1);
+        // each of the two needs its own
+        SleepWard v = Due.told("sloper at 5;sloper at 1;height 0 0;river 0");
+        Due.is("two", v.barred(120, 0), 2);
+        Due.is("both", v.barred(120, 1), 3);
+
+        // both {1, 2} and {0, 3} would do: 6 is less than 9
+        SleepWard w = Due.told("wanderer at 4;wanderer at 13;river 7");
+        w.seed(622);
+        Due.is("two", w.barred(12, 0), 2);
+        Due.is("the least", w.barred(12, 1), 6);
+        w.door(2, 7, false);
+        w.door(7, 12, false);
+        Due.is("others do, too", w.safe(12), 1);
+
         // nobody can be barred that is in it already
         SleepWard z = Due.told("walker at 8;river 8");
         Due.is("in it now", z.barred(120, 1), 0);
@@ -209,6 +231,7 @@ public final class AheadTest {
         x.mark(11, 0, true);
         Due.is("7 is ahead", x.lamp(1), 7);
         Due.is("lamps stay", x.count(2), 1);
+        Due.is("square 0", Due.told("lamper at 5 way 2").lamp(1), 0);
         SleepWard y = Due.told("walker at 12;sloper at 3;wanderer at 9");
         Due.is("nobody sees lamps", y.lamp(120), Due.NONE);
         SleepWard z = Due.told("lamper at 12;lamper at 18 way 2;lamper at 18 way 2");
@@ -352,6 +375,26 @@ public final class AheadTest {
         Due.is("n", x.likeliest(0, -1), Due.BEYOND);
         Due.is("kind", x.likeliest(1, 1), Due.STATE);
         Due.is("beyond first", x.likeliest(1, 16), Due.BEYOND);
+    }
+
+    /** With these seeds it comes to 24 first in 500 minutes, and in 501. */
+    private static void theLastMinute() {
+        SleepWard x = Due.told("shut 3 4;shut 4 9;rounds 4;wanderer at 24;walker at 24");
+        x.wake(1, true);
+        int[] places = {12, 13};
+        int[] seeds = {14512, 107830};
+        for (int i = 0; i < 2; i++) {
+            int want = i == 0 ? 500 : Due.NONE;
+            x.set(0, 2, places[i]);
+            x.seed(seeds[i]);
+            Due.is("meet", x.meet(0, 1), want);
+            Due.is("home", x.home(0), want);
+            x.mark(24, 1, true);
+            Due.is("river", x.river(0), want);
+            Due.is("safe", x.safe(500), i);
+            Due.is("safe", x.safe(499), 1);
+            x.mark(24, 1, false);
+        }
     }
 
     private static void nothingChanges() {

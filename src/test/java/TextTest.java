@@ -62,6 +62,8 @@ public final class TextTest {
         Due.is("moon", x.now(1), 4);
         Due.is("lamps", x.count(2), 2);
         Due.is("the ward stays", x.squareOf(24, 0), 9);
+        Due.ward(x, "moon 0", 1);
+        Due.is("moon", x.now(1), 0);
         Due.ward(x, "open 7 12", 1);
         Due.is("open", x.count(1), 0);
     }
@@ -82,6 +84,11 @@ public final class TextTest {
         Due.ward(x, "moon 10000", -6);
         Due.ward(x, "mo on 1", -1);
         Due.ward(x, "moons 1", -1);
+        Due.ward(x, "moonz 1", -1);
+        Due.ward(x, "amoon 1", -1);
+        Due.ward(x, "coon 1", -1);
+        Due.ward(x, "moom 1", -1);
+        Due.ward(x, "talker at 1", -1);
         Due.ward(x, "Moon 1", -1);
         Due.ward(x, "moon\t1", -5);
         Due.ward(x, "moon -1", -6);

@@ -183,6 +183,8 @@ public final class WalkersTest {
         SleepWard x = new SleepWard();
         x.walker(1, 12, 2);
         Due.is("flat: as a walker", x.step(0), 2);
+        x.height(7, 4);
+        Due.is("lower", x.step(0), 0);
         x.height(7, 6);
         Due.is("higher draws not", x.step(0), 2);
         x.height(11, 4);
