@@ -26,6 +26,7 @@ public final class PlansEdgesTest {
         loopOfNoWalker();
         loopOfOneThatIsNotSo();
         loopsOfOneMinuteAndOfMany();
+        loopsOfWhatThereIs();
         loopsThatNeverCloseAndTheRiver();
         loopsNeedNoMinutesLeft();
         nobodyWakesOneInALoop();
@@ -109,6 +110,17 @@ public final class PlansEdgesTest {
         Due.is("it is safe", x.safe(1), 1);
         x.door(24, 19, false);
         Due.is("of twelve", x.barred(1, 0), 0);
+        // four times three of the edges, four times two of the corners and four of the midst
+        int[][] twelves = {{2, 10, 14, 22}, {1, 3, 21, 23}, {5, 15, 9, 19}, {0, 4, 20, 24, 12}};
+        for (int[] rivers : twelves) {
+            SleepWard edge = new SleepWard();
+            for (int square : rivers) {
+                edge.mark(square, 1, true);
+            }
+            Due.is("of twelve", edge.barred(1, 0), 0);
+            edge.mark(rivers[0] == 0 ? 22 : 0, 1, true);
+            Due.is("of more", edge.barred(1, 0), rivers[0] == 1 || rivers[0] == 5 ? 0 : Due.SIZE);
+        }
         // most doors of all: every second square
         SleepWard y = new SleepWard();
         for (int square = 0; square < 25; square += 2) {
@@ -325,6 +337,31 @@ public final class PlansEdgesTest {
         Due.is("four each, the least", x.lamp(1), 5);
         x.wake(0, true);
         Due.is("three or four", x.lamp(1), 17);
+        for (int ward = 0; ward < 40; ward++) {
+            int number = ward;
+            Twins.Making making = () -> eightWhoSeeLamps(number);
+            Due.is("eight of ward " + ward, making.make().lamp(1 + ward % 9), lampByHand(making, 1 + ward % 9));
+        }
+        // to and fro between 12 and 11, or into the river at 13: the very next square counts as another
+        String text = "lamper at 12 way 3;river 13;shut 12 7;shut 12 17;shut 11 6;shut 11 10;shut 11 16";
+        Twins.keeps("13, not 12", () -> Due.told(text), y -> y.lamp(2), 13);
+    }
+
+    /** Lampers and mooners by full moon, with some doors shut and a lamp or two. */
+    private static SleepWard eightWhoSeeLamps(int number) {
+        SleepWard x = new SleepWard();
+        java.util.Random r = new java.util.Random(number);
+        x.moon(4);
+        for (int i = 0; i < 8; i++) {
+            x.walker(r.nextInt(3) == 0 ? 5 : 2, r.nextInt(25), r.nextInt(4));
+        }
+        for (int i = 0; i < 9; i++) {
+            int square = r.nextInt(20);
+            x.door(square, square + 5, false);
+        }
+        x.mark(r.nextInt(25), 0, true);
+        x.mark(r.nextInt(25), 1, true);
+        return x;
     }
 
     /** Promise 27, "be at another PLACE ON n MINUTES": not on the way, but behind the last. */
@@ -401,6 +438,8 @@ public final class PlansEdgesTest {
         Due.is("the watcher stays", x.watch(1), 20);
         Due.is("rounds are as they were", x.count(4), 2);
         Due.is("the watcher is where it was", x.now(2), 0);
+        // if it went on its rounds to 1, it would wake both from 3 on
+        Twins.keeps("the least of 1 and 3", () -> Due.told("mooner at 3;mooner at 1;rounds 1"), v -> v.watch(2), 1);
         SleepWard y = Due.told("walker at 22 way 3;walker at 10 way 2");
         Due.is("in the second minute both", y.watch(2), 20);
         Due.is("in the first one of them", y.watch(1), 15);
@@ -443,6 +482,27 @@ public final class PlansEdgesTest {
         SleepWard x = Due.told("walker at 2 way 1;shut 0 5;shut 1 6;shut 2 7;shut 3 8;shut 4 9");
         Due.is("the place again in four", x.on(0, 4), 2);
         Due.is("with its way in eight", x.loop(0), 8);
+    }
+
+    /** Promise 29 asks of the doors and the river as they are, not as they were when something went ON. */
+    private static void loopsOfWhatThereIs() {
+        SleepWard x = Due.told("walker at 0");
+        x.on(0, 1);
+        x.door(0, 1, false);
+        Due.is("down and up again", x.loop(0), 8);
+        x.door(0, 5, false);
+        Due.is("shut in", x.loop(0), 1);
+        x.door(0, 1, true);
+        x.door(1, 2, false);
+        x.door(1, 6, false);
+        x.set(0, 3, 3);
+        Due.is("to and fro", x.loop(0), 2);
+        x.mark(1, 1, true);
+        Due.is("into the river", x.loop(0), Due.NONE);
+        x.mark(1, 1, false);
+        x.set(0, 2, 1);
+        x.set(0, 3, 1);
+        Due.is("to and fro", x.loop(0), 2);
     }
 
     /** Promise 29, "NONE": its way never comes again, or the river holds it, even beside its place. */
